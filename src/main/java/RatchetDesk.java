@@ -45,11 +45,7 @@ public final class RatchetDesk {
         for (int i = 0; i < LETTERS; i++) {
             post[i] = new Letter();
         }
-        for (int i = 0; i < PEOPLE; i++) {
-            people[i].identity.make(seed, i, tools.hash);
-            people[i].prekey.make(seed, PEOPLE + i, tools.hash);
-        }
-        secretCount = 2 * PEOPLE;
+        makeFirstSecrets();
     }
 
     public void put(int k, int part, long v) throws IndexOutOfBoundsException {
@@ -119,7 +115,8 @@ public final class RatchetDesk {
         copyKey(people[to].prekey.shown(tools.curve), trial.other);
         trial.introduce(from, oneTime, passing.shown(tools.curve));
         trial.turning = true;
-        return addTrial();
+        placeTrial(endCount);
+        return endCount - 1;
     }
 
     public int send(int end, long text) throws IndexOutOfBoundsException, IllegalStateException {
@@ -165,7 +162,8 @@ public final class RatchetDesk {
         if (oneTime != NO_ONE_TIME) {
             people[person].use(oneTime);
         }
-        return addTrial();
+        placeTrial(endCount);
+        return endCount - 1;
     }
 
     public int open(int end, int letter) throws IndexOutOfBoundsException {
@@ -263,6 +261,15 @@ public final class RatchetDesk {
         }
     }
 
+    private void makeFirstSecrets() {
+        for (int i = 0; i < PEOPLE; i++) {
+            makeSecret(people[i].identity);
+        }
+        for (int i = 0; i < PEOPLE; i++) {
+            makeSecret(people[i].prekey);
+        }
+    }
+
     private void makeSecret(Secret secret) {
         secret.make(seed, secretCount, tools.hash);
         secretCount++;
@@ -306,13 +313,10 @@ public final class RatchetDesk {
         return letter.oneTime() == NO_ONE_TIME || people[person].has(letter.oneTime());
     }
 
-    private int addTrial() {
-        placeTrial(endCount);
-        endCount++;
-        return endCount - 1;
-    }
-
-    /** Only here is a secret made for a turn: an opening that failed never comes so far. */
+    /**
+     * The trial becomes the end with this number, which may be a new one. Only here is a
+     * secret made for a turn: an opening that failed never comes so far.
+     */
     private void placeTrial(int end) {
         if (trial.turning) {
             makeSecret(trial.own);
@@ -323,6 +327,9 @@ public final class RatchetDesk {
         End former = talks[end];
         talks[end] = trial;
         trial = former;
+        if (end == endCount) {
+            endCount++;
+        }
     }
 
     private static void copyKey(int[] from, int[] to) {
@@ -348,7 +355,7 @@ public final class RatchetDesk {
 
     private static void writeEight(int[] row, int at, long v) {
         for (int i = 0; i < 8; i++) {
-            row[at + i] = (int) (v >>> 8 * i) & 255;
+            row[at + i] = (int) (v >>> (8 * i)) & 255;
         }
     }
 
@@ -692,15 +699,21 @@ public final class RatchetDesk {
         /** Changes this end whatever comes out: it is for the trial. Leaves the turn, where due, to come. */
         int take(Letter letter, Tools tools) {
             int at = kept.find(letter);
-            boolean turns = !(receiving.stands && letter.isUnder(other));
+            turning = at == NONE && !(receiving.stands && letter.isUnder(other));
             if (at != NONE) {
                 kept.takeOut(at, tools.letterKey);
-            } else if (!turns && letter.number() < receiving.passed) {
+            } else if (!turning && letter.number() < receiving.passed) {
                 return OLD;
-            } else if (kept.size + passedOver(letter, turns) > KEPT) {
+            } else if (kept.size + passedOver(letter) > KEPT) {
                 return FAR;
             } else {
-                advance(letter, turns, tools);
+                if (turning) {
+                    keepUpTo(receiving.stands ? letter.before() : 0, tools);
+                    System.arraycopy(letter.bytes, 0, other, 0, KEY);
+                    receiving.restart(own.key, other, root, tools);
+                }
+                keepUpTo(letter.number(), tools);
+                receiving.step(tools.hash, tools.letterKey);
             }
             tools.seal.prepare(tools.letterKey, letter, tools.hash);
             tools.seal.reckonMark(tie, letter, tools.hash);
@@ -712,25 +725,12 @@ public final class RatchetDesk {
             return OPENED;
         }
 
-        private int passedOver(Letter letter, boolean turns) {
-            if (!turns) {
+        private int passedOver(Letter letter) {
+            if (!turning) {
                 return letter.number() - receiving.passed;
             }
             int behind = receiving.stands ? letter.before() - receiving.passed : 0;
             return letter.number() + (behind > 0 ? behind : 0);
-        }
-
-        private void advance(Letter letter, boolean turns, Tools tools) {
-            if (turns) {
-                if (receiving.stands) {
-                    keepUpTo(letter.before(), tools);
-                }
-                System.arraycopy(letter.bytes, 0, other, 0, KEY);
-                receiving.restart(own.key, other, root, tools);
-                turning = true;
-            }
-            keepUpTo(letter.number(), tools);
-            receiving.step(tools.hash, tools.letterKey);
         }
 
         private void keepUpTo(int number, Tools tools) {
@@ -786,7 +786,7 @@ public final class RatchetDesk {
 
         void addWord(int v) {
             for (int i = 0; i < 32; i += 8) {
-                add(v >>> i & 255);
+                add((v >>> i) & 255);
             }
         }
 
@@ -805,7 +805,7 @@ public final class RatchetDesk {
                 mixWords();
             }
             for (int i = 0; i < KEY; i++) {
-                into[i] = state[i >> 2] >>> 24 - 8 * (i & 3) & 255;
+                into[i] = (state[i >> 2] >>> (24 - 8 * (i & 3))) & 255;
             }
         }
 
@@ -853,8 +853,8 @@ public final class RatchetDesk {
             for (int t = 16; t < 64; t++) {
                 int v = words[t - 15];
                 int w = words[t - 2];
-                int low = (v >>> 7 | v << 25) ^ (v >>> 18 | v << 14) ^ v >>> 3;
-                int high = (w >>> 17 | w << 15) ^ (w >>> 19 | w << 13) ^ w >>> 10;
+                int low = (v >>> 7 | v << 25) ^ (v >>> 18 | v << 14) ^ (v >>> 3);
+                int high = (w >>> 17 | w << 15) ^ (w >>> 19 | w << 13) ^ (w >>> 10);
                 words[t] = words[t - 16] + low + words[t - 7] + high;
             }
         }
@@ -864,9 +864,9 @@ public final class RatchetDesk {
             int e = state[4], f = state[5], g = state[6], h = state[7];
             for (int t = 0; t < 64; t++) {
                 int x = h + ((e >>> 6 | e << 26) ^ (e >>> 11 | e << 21) ^ (e >>> 25 | e << 7))
-                    + (e & f ^ ~e & g) + CUBE_ROOTS[t] + words[t];
+                    + ((e & f) ^ (~e & g)) + CUBE_ROOTS[t] + words[t];
                 int y = ((a >>> 2 | a << 30) ^ (a >>> 13 | a << 19) ^ (a >>> 22 | a << 10))
-                    + (a & b ^ a & c ^ b & c);
+                    + ((a & b) ^ (a & c) ^ (b & c));
                 h = g;
                 g = f;
                 f = e;
@@ -929,11 +929,12 @@ public final class RatchetDesk {
             }
             invert(b, c);
             multiply(a, c, a);
+            reduce(a);
             writeNumber(a, into);
         }
 
         private static boolean isSet(int[] secret, int t) {
-            return t == 254 || t > 2 && (secret[t >> 3] >> (t & 7) & 1) == 1;
+            return t == 254 || t > 2 && ((secret[t >> 3] >> (t & 7)) & 1) == 1;
         }
 
         private void step(long[] p, long[] q, long[] r, long[] s) {
@@ -975,47 +976,46 @@ public final class RatchetDesk {
             x[0] = v;
         }
 
-        private static int bitsOf(int limb) {
-            return 26 - (limb & 1);
-        }
-
         /** The limbs have 255 bits together: bit 255 of the key does not count. */
         private static void readNumber(int[] key, long[] into) {
             int at = 0;
             for (int i = 0; i < LIMBS; i++) {
+                int bits = 26 - (i & 1);
                 into[i] = 0;
-                for (int j = 0; j < bitsOf(i); j++) {
-                    into[i] |= (long) (key[at >> 3] >> (at & 7) & 1) << j;
+                for (int j = 0; j < bits; j++) {
+                    into[i] |= (long) ((key[at >> 3] >> (at & 7)) & 1) << j;
                     at++;
                 }
             }
         }
 
         private static void writeNumber(long[] x, int[] key) {
-            reduce(x);
             for (int i = 0; i < KEY; i++) {
                 key[i] = 0;
             }
             int at = 0;
             for (int i = 0; i < LIMBS; i++) {
-                for (int j = 0; j < bitsOf(i); j++) {
-                    key[at >> 3] |= (int) (x[i] >> j & 1) << (at & 7);
+                int bits = 26 - (i & 1);
+                for (int j = 0; j < bits; j++) {
+                    key[at >> 3] |= (int) ((x[i] >> j) & 1) << (at & 7);
                     at++;
                 }
             }
         }
 
-        /** Brings x to 0 .. p - 1: how often p goes into it is what 19 more at the bottom would carry out. */
+        /** Brings a product, whose balanced limbs keep it between -p and p, to 0 .. p - 1. */
         private static void reduce(long[] x) {
-            long times = 19 * x[9] + HALF_25 >> 25;
+            long sign = 0;
             for (int i = 0; i < LIMBS; i++) {
-                times = x[i] + times >> bitsOf(i);
+                sign = (x[i] + sign) >> (26 - (i & 1));
             }
-            long carry = 19 * times;
+            // The carry past bit 255 is dropped: with 19 taken away that adds p to what is below 0.
+            long carry = 19 * sign;
             for (int i = 0; i < LIMBS; i++) {
+                int bits = 26 - (i & 1);
                 long v = x[i] + carry;
-                carry = v >> bitsOf(i);
-                x[i] = v - (carry << bitsOf(i));
+                carry = v >> bits;
+                x[i] = v - (carry << bits);
             }
         }
 
@@ -1034,9 +1034,10 @@ public final class RatchetDesk {
         private static void scale(long[] x, long[] into) {
             long carry = 0;
             for (int i = 0; i < LIMBS; i++) {
+                int bits = 26 - (i & 1);
                 long v = 121665 * x[i] + carry;
-                carry = v + (1L << bitsOf(i) - 1) >> bitsOf(i);
-                into[i] = v - (carry << bitsOf(i));
+                carry = (v + (1L << (bits - 1))) >> bits;
+                into[i] = v - (carry << bits);
             }
             into[0] += 19 * carry;
         }
@@ -1070,17 +1071,17 @@ public final class RatchetDesk {
                 + 2 * (x1 * y7 + x3 * y5 + x5 * y3 + x7 * y1 + x9 * z9);
             long h9 = x0 * y9 + x1 * y8 + x2 * y7 + x3 * y6 + x4 * y5
                 + x5 * y4 + x6 * y3 + x7 * y2 + x8 * y1 + x9 * y0;
-            long t = h0 + HALF_26 >> 26; h1 += t; h0 -= t << 26;
-            t = h1 + HALF_25 >> 25; h2 += t; into[1] = h1 - (t << 25);
-            t = h2 + HALF_26 >> 26; h3 += t; into[2] = h2 - (t << 26);
-            t = h3 + HALF_25 >> 25; h4 += t; into[3] = h3 - (t << 25);
-            t = h4 + HALF_26 >> 26; h5 += t; into[4] = h4 - (t << 26);
-            t = h5 + HALF_25 >> 25; h6 += t; into[5] = h5 - (t << 25);
-            t = h6 + HALF_26 >> 26; h7 += t; into[6] = h6 - (t << 26);
-            t = h7 + HALF_25 >> 25; h8 += t; into[7] = h7 - (t << 25);
-            t = h8 + HALF_26 >> 26; h9 += t; into[8] = h8 - (t << 26);
-            t = h9 + HALF_25 >> 25; h0 += 19 * t; into[9] = h9 - (t << 25);
-            t = h0 + HALF_26 >> 26; into[1] += t; into[0] = h0 - (t << 26);
+            long t = (h0 + HALF_26) >> 26; h1 += t; h0 -= t << 26;
+            t = (h1 + HALF_25) >> 25; h2 += t; into[1] = h1 - (t << 25);
+            t = (h2 + HALF_26) >> 26; h3 += t; into[2] = h2 - (t << 26);
+            t = (h3 + HALF_25) >> 25; h4 += t; into[3] = h3 - (t << 25);
+            t = (h4 + HALF_26) >> 26; h5 += t; into[4] = h4 - (t << 26);
+            t = (h5 + HALF_25) >> 25; h6 += t; into[5] = h5 - (t << 25);
+            t = (h6 + HALF_26) >> 26; h7 += t; into[6] = h6 - (t << 26);
+            t = (h7 + HALF_25) >> 25; h8 += t; into[7] = h7 - (t << 25);
+            t = (h8 + HALF_26) >> 26; h9 += t; into[8] = h8 - (t << 26);
+            t = (h9 + HALF_25) >> 25; h0 += 19 * t; into[9] = h9 - (t << 25);
+            t = (h0 + HALF_26) >> 26; into[1] += t; into[0] = h0 - (t << 26);
         }
     }
 }
