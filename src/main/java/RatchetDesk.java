@@ -619,9 +619,12 @@ public final class RatchetDesk {
             }
             copyKey(letterKeys[at], letterKey);
             size--;
-            copyKey(ratchetKeys[size], ratchetKeys[at]);
-            copyKey(letterKeys[size], letterKeys[at]);
-            numbers[at] = numbers[size];
+            // The others keep their order, so that of two for the same header the older goes first.
+            for (int i = at; i < size; i++) {
+                copyKey(ratchetKeys[i + 1], ratchetKeys[i]);
+                copyKey(letterKeys[i + 1], letterKeys[i]);
+                numbers[i] = numbers[i + 1];
+            }
         }
     }
 

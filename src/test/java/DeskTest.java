@@ -18,44 +18,6 @@ public final class DeskTest {
         Both.end();
     }
 
-    private static void putHex(Both both, int k, String hex) {
-        for (int part = 0; part < 4; part++) {
-            long v = 0;
-            for (int i = 7; i >= 0; i--) {
-                int at = 2 * (8 * part + i);
-                v = v << 8 | Integer.parseInt(hex.substring(at, at + 2), 16);
-            }
-            both.due("nothing", "put", k, part, v);
-        }
-    }
-
-    private static String getHex(Both both, int k) {
-        StringBuilder hex = new StringBuilder();
-        for (int part = 0; part < 4; part++) {
-            long v = Long.parseLong(both.call("get", k, part));
-            for (int i = 0; i < 8; i++) {
-                hex.append(String.format("%02x", v >>> 8 * i & 255));
-            }
-        }
-        return hex.toString();
-    }
-
-    private static String hexOf(byte[] bytes) {
-        StringBuilder hex = new StringBuilder();
-        for (byte b : bytes) {
-            hex.append(String.format("%02x", b & 255));
-        }
-        return hex.toString();
-    }
-
-    private static void putRandom(Both both, Random random) {
-        for (int k = 0; k < 4; k++) {
-            for (int part = 0; part < 4; part++) {
-                both.call("put", k, part, random.nextLong());
-            }
-        }
-    }
-
     private static void newObject() {
         for (int seed : new int[] {0, 1, -1, Integer.MIN_VALUE, Integer.MAX_VALUE, 0x01020384}) {
             Both both = new Both("new object " + seed, seed);
@@ -99,13 +61,13 @@ public final class DeskTest {
         // The bytes' order shows in a digest: 'abc' are the lowest three of the first part.
         both.call("put", 0, 0, 0x636261L);
         both.call("digest", 3, 3);
-        Both.hold("abc", getHex(both, 3), "ba7816bf8f01cfea414140de5dae2223b00361a396177a9cb410ff61f20015ad");
+        Both.hold("abc", Keys.get(both, 3), "ba7816bf8f01cfea414140de5dae2223b00361a396177a9cb410ff61f20015ad");
     }
 
     private static void wrongKeysAndParts() {
         for (int bad : NO_INDEX) {
             Both both = new Both("wrong desk index " + bad, 5);
-            putRandom(both, new Random(bad));
+            Keys.putRandom(both, new Random(bad));
             both.due(Both.INDEX, "put", bad, 0, 1L);
             both.due(Both.INDEX, "put", 0, bad, 1L);
             both.due(Both.INDEX, "get", bad, 0);
@@ -117,18 +79,14 @@ public final class DeskTest {
             both.due(Both.INDEX, "mac", 0, bad, 1);
             both.due(Both.INDEX, "mac", 0, 1, bad);
             both.due(Both.INDEX, "digest", 1, bad);
-            for (int k = 0; k < 4; k++) {
-                getHex(both, k);
-            }
+            Keys.getAll(both);
         }
         Both both = new Both("wrong n", 5);
-        putRandom(both, new Random(0));
+        Keys.putRandom(both, new Random(0));
         for (int n : new int[] {-1, 129, 130, 255, 256, Integer.MIN_VALUE, Integer.MAX_VALUE}) {
             both.due(Both.INDEX, "digest", n, 0);
         }
-        for (int k = 0; k < 4; k++) {
-            getHex(both, k);
-        }
+        Keys.getAll(both);
     }
 
     private static void agreeByPublishedVectors() {
@@ -142,13 +100,13 @@ public final class DeskTest {
              "95cbde9476e8907d7aade45cb4b873f88b595a68799fa152e6f8f7647aac7957"}};
         for (String[] vector : vectors) {
             Both both = new Both("RFC 7748", 0);
-            putHex(both, 0, vector[0]);
-            putHex(both, 1, vector[1]);
+            Keys.put(both, 0, vector[0]);
+            Keys.put(both, 1, vector[1]);
             both.due("nothing", "agree", 0, 1, 2);
-            Both.hold("RFC 7748", getHex(both, 2), vector[2]);
-            Both.hold("k is as it was", getHex(both, 0), vector[0]);
-            Both.hold("u is as it was", getHex(both, 1), vector[1]);
-            Both.hold("the fourth key is as it was", getHex(both, 3), "00".repeat(32));
+            Both.hold("RFC 7748", Keys.get(both, 2), vector[2]);
+            Both.hold("k is as it was", Keys.get(both, 0), vector[0]);
+            Both.hold("u is as it was", Keys.get(both, 1), vector[1]);
+            Both.hold("the fourth key is as it was", Keys.get(both, 3), "00".repeat(32));
         }
     }
 
@@ -188,21 +146,19 @@ public final class DeskTest {
             "f8" + "ff".repeat(30) + "3f", "00".repeat(31) + "40", "01" + "00".repeat(31)};
         for (String secret : secrets) {
             Both both = new Both("agree at the edges", 3);
-            putHex(both, 0, secret);
+            Keys.put(both, 0, secret);
             for (String point : points) {
-                putHex(both, 1, point);
+                Keys.put(both, 1, point);
                 both.due("nothing", "agree", 0, 1, 2);
-                getHex(both, 2);
+                Keys.get(both, 2);
             }
         }
         Random random = new Random(25519);
         for (int i = 0; i < 40; i++) {
             Both both = new Both("agree at random", i);
-            putRandom(both, random);
+            Keys.putRandom(both, random);
             both.due("nothing", "agree", i & 3, i >> 2 & 3, i / 16 & 3);
-            for (int k = 0; k < 4; k++) {
-                getHex(both, k);
-            }
+            Keys.getAll(both);
         }
     }
 
@@ -210,11 +166,9 @@ public final class DeskTest {
         int[][] places = {{0, 1, 0}, {0, 1, 1}, {2, 2, 2}, {3, 3, 0}};
         for (int[] at : places) {
             Both both = new Both("agree into its own key", 0);
-            putRandom(both, new Random(at[2]));
+            Keys.putRandom(both, new Random(at[2]));
             both.due("nothing", "agree", at[0], at[1], at[2]);
-            for (int k = 0; k < 4; k++) {
-                getHex(both, k);
-            }
+            Keys.getAll(both);
         }
     }
 
@@ -224,17 +178,15 @@ public final class DeskTest {
             for (int m = 0; m < 4; m++) {
                 for (int into = 0; into < 4; into++) {
                     Both both = new Both("mac", k);
-                    putRandom(both, random);
+                    Keys.putRandom(both, random);
                     both.due("nothing", "mac", k, m, into);
-                    for (int i = 0; i < 4; i++) {
-                        getHex(both, i);
-                    }
+                    Keys.getAll(both);
                 }
             }
         }
         Both both = new Both("mac of a key and a row of 0", 0);
         both.due("nothing", "mac", 0, 1, 2);
-        Both.hold("mac of 0", getHex(both, 2), hexOf(Model.hmac(new byte[32], new byte[32])));
+        Both.hold("mac of 0", Keys.get(both, 2), Keys.hex(Model.hmac(new byte[32], new byte[32])));
     }
 
     private static void digests() {
@@ -242,11 +194,9 @@ public final class DeskTest {
         for (int n = 0; n <= 128; n++) {
             for (int into = n & 1; into < 4; into += 2) {
                 Both both = new Both("digest of " + n, n);
-                putRandom(both, random);
+                Keys.putRandom(both, random);
                 both.due("nothing", "digest", n, into);
-                for (int k = 0; k < 4; k++) {
-                    getHex(both, k);
-                }
+                Keys.getAll(both);
             }
         }
     }
@@ -254,12 +204,12 @@ public final class DeskTest {
     private static void digestByPublishedVectors() {
         Both both = new Both("digest", 0);
         both.due("nothing", "digest", 0, 3);
-        Both.hold("of nothing", getHex(both, 3), "e3b0c44298fc1c149afbf4c8996fb92427ae41e4649b934ca495991b7852b855");
+        Both.hold("of nothing", Keys.get(both, 3), "e3b0c44298fc1c149afbf4c8996fb92427ae41e4649b934ca495991b7852b855");
         String text = "abcdbcdecdefdefgefghfghighijhijkijkljklmklmnlmnomnopnopq";
         byte[] bytes = text.getBytes(java.nio.charset.StandardCharsets.ISO_8859_1);
-        putHex(both, 0, hexOf(bytes).substring(0, 64));
-        putHex(both, 1, hexOf(bytes).substring(64) + "00".repeat(8));
+        Keys.put(both, 0, Keys.hex(bytes).substring(0, 64));
+        Keys.put(both, 1, Keys.hex(bytes).substring(64) + "00".repeat(8));
         both.due("nothing", "digest", 56, 2);
-        Both.hold("FIPS 180", getHex(both, 2), "248d6a61d20638b8e5c026930c3e6039a33ce45964ff2167f6ecedd419db06c1");
+        Both.hold("FIPS 180", Keys.get(both, 2), "248d6a61d20638b8e5c026930c3e6039a33ce45964ff2167f6ecedd419db06c1");
     }
 }

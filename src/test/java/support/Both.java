@@ -1,69 +1,109 @@
-import java.lang.reflect.InvocationTargetException;
 import java.lang.reflect.Method;
+import java.util.ArrayList;
 import java.util.Arrays;
-import java.util.HashMap;
+import java.util.List;
 import java.util.Map;
+import java.util.Set;
 
 /** A RatchetDesk and a Model that get the same calls; answers are written as the issues write them. */
 public final class Both {
     static final String INDEX = "throws.IndexOutOfBoundsException";
     static final String ARGUMENT = "throws.IllegalArgumentException";
     static final String STATE = "throws.IllegalStateException";
-    private static final int MOST_CALLS = 512;
-    private static final Map<String, Method> REAL = methods(RatchetDesk.class);
-    private static final Map<String, Method> MODEL = methods(Model.class);
+    private static final Map<String, Method> REAL = Replay.publicMethods(RatchetDesk.class);
+    private static final Map<String, Method> MODEL = Replay.publicMethods(Model.class);
+    private static final Set<String> QUESTIONS = Set.of("get", "offers", "text", "ends", "person", "letters",
+        "length", "wire", "count", "keeps", "word");
+    private static final int MARK = 42;
     private static int looked, wrong;
 
     private final String name;
+    private final int seed;
     private final RatchetDesk desk;
     private final Model model;
+    private final List<Replay.Call> made = new ArrayList<>();
+    private final List<Replay.Call> refused = new ArrayList<>();
+    private Base base;
     private int calls;
+
+    /** What is seen without the refused calls; kept, as many of these stand behind the same calls. */
+    private record Base(int calls, List<Replay.Call> questions, List<String> answers, List<Replay.Call> play,
+            List<String> played) {
+        static Base of(Replay replay, int calls) {
+            List<Replay.Call> questions = replay.everyQuestion();
+            List<Replay.Call> play = replay.play();
+            List<Replay.Call> fitting = play.subList(0, Math.min(play.size(), Replay.MOST_CALLS - calls));
+            return new Base(calls, questions, replay.answers(questions), fitting, replay.answers(fitting));
+        }
+    }
 
     Both(String name, int seed) {
         this.name = name;
+        this.seed = seed;
         desk = new RatchetDesk(seed);
         model = new Model(seed);
     }
 
-    private static Map<String, Method> methods(Class<?> type) {
-        Map<String, Method> found = new HashMap<>();
-        for (Method m : type.getDeclaredMethods()) {
-            if ((m.getModifiers() & 1) != 0) {
-                found.put(m.getName(), m);
-            }
-        }
-        return found;
-    }
-
-    private static String outcome(Method m, Object on, Object[] args) {
-        try {
-            Object answer = m.invoke(on, args);
-            return answer == null ? "nothing" : answer.toString();
-        } catch (InvocationTargetException e) {
-            return "throws." + e.getCause().getClass().getSimpleName();
-        } catch (IllegalAccessException e) {
-            throw new AssertionError(e);
-        }
-    }
-
     /** What the desk answers, after it was held against what the model answers. */
     String call(String method, Object... args) {
+        if (!QUESTIONS.contains(method)) {
+            made.add(new Replay.Call(method, args));
+        }
+        return ask(method, args);
+    }
+
+    private String ask(String method, Object... args) {
         calls++;
-        String got = outcome(REAL.get(method), desk, args);
-        String want = outcome(MODEL.get(method), model, args);
+        String got = Replay.outcome(REAL.get(method), desk, args);
+        String want = Replay.outcome(MODEL.get(method), model, args);
         hold(name + ", call " + calls + ": " + method + Arrays.toString(args), got, want);
-        hold(name + ": at most " + MOST_CALLS + " calls", calls <= MOST_CALLS ? "yes" : "no", "yes");
+        hold(name + ": at most " + Replay.MOST_CALLS + " calls", calls <= Replay.MOST_CALLS ? "yes" : "no", "yes");
         return got;
     }
 
     /** The same, where the answer is known beforehand. */
     void due(Object want, String method, Object... args) {
-        String got = call(method, args);
+        told(want, call(method, args), method, args);
+    }
+
+    private void told(Object want, String got, String method, Object... args) {
         hold(name + ", call " + calls + " (told): " + method + Arrays.toString(args), got, want.toString());
     }
 
+    /** A call that must change nothing; whether it did is seen by unchanged(). */
+    void refuse(Object want, String method, Object... args) {
+        refused.add(new Replay.Call(method, args));
+        told(want, ask(method, args), method, args);
+    }
+
+    /** Nothing can be seen, nor comes out later, that would not have without the refused calls. */
+    void unchanged() {
+        if (base == null || base.calls != made.size()) {
+            base = Base.of(new Replay(seed, made), made.size());
+        }
+        List<Replay.Call> all = new ArrayList<>(made);
+        all.addAll(refused);
+        Replay with = new Replay(seed, all);
+        holdAll(with.answers(base.questions), base.answers);
+        int room = Math.min(base.play.size(), Replay.MOST_CALLS - all.size());
+        holdAll(with.answers(base.play.subList(0, room)), base.played);
+        refused.clear();
+    }
+
+    private void holdAll(List<String> got, List<String> want) {
+        for (int i = 0; i < got.size(); i++) {
+            hold(name + ", all is as it was behind a refused call", got.get(i), want.get(i));
+        }
+    }
+
+    /** A call that must change nothing, and nothing else did since the last one. */
+    void refuseAlone(Object want, String method, Object... args) {
+        refuse(want, method, args);
+        unchanged();
+    }
+
     int callsLeft() {
-        return MOST_CALLS - calls;
+        return Replay.MOST_CALLS - calls;
     }
 
     int number(String method, Object... args) {
@@ -85,6 +125,35 @@ public final class Both {
         seen.append(call("text", end)).append(' ');
         seen.append(call("person", end, false)).append(' ').append(call("person", end, true));
         return seen.toString();
+    }
+
+    /** The number of a letter like another one but for some bytes: place, value, place, value .. */
+    int change(int letter, int... changes) {
+        int like = letter;
+        for (int i = 0; i < changes.length; i += 2) {
+            like = number("forge", like, changes[i], changes[i + 1]);
+        }
+        return like;
+    }
+
+    /** The same, with the mark by which an end opens it: as of one who knows the end's keys. */
+    int craft(int end, int letter, int... changes) {
+        int like = change(letter, changes);
+        return stamp(like, model.markAt(end, like));
+    }
+
+    /** The same, with the mark by which a person answers it. */
+    int craftFirst(int person, int letter, int... changes) {
+        int like = change(letter, changes);
+        return stamp(like, model.markFor(person, like));
+    }
+
+    private int stamp(int letter, byte[] mark) {
+        int like = letter;
+        for (int i = 0; i < mark.length; i++) {
+            like = number("forge", like, MARK + i, mark[i] & 255);
+        }
+        return like;
     }
 
     static void hold(String what, String got, String want) {

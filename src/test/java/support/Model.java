@@ -16,7 +16,8 @@ import javax.crypto.spec.SecretKeySpec;
  * joined and copied at will: what RatchetDesk's answers are held against.
  */
 public final class Model {
-    private static final BigInteger P = BigInteger.TWO.pow(255).subtract(BigInteger.valueOf(19));
+    private static final int OPENED = 0, OLD = -1, FAR = -2, WRONG = -3, NONE = -1;
+    static final BigInteger P = BigInteger.TWO.pow(255).subtract(BigInteger.valueOf(19));
     private static final Map<String, byte[]> AGREED = new HashMap<>();
 
     /** A kept letter key. */
@@ -36,7 +37,7 @@ public final class Model {
     /** One side of a talk; all rows in it are replaced, never changed. */
     private static final class Side implements Cloneable {
         int me, other;
-        byte[] tie, root, secret, theirs, sending, receiving, tail;
+        byte[] tie, root, secret, theirs, sending, receiving, tail, dueMark;
         int sent, come, before;
         List<Kept> kept = new ArrayList<>();
         boolean opened, mustTurn;
@@ -120,8 +121,15 @@ public final class Model {
     }
 
     private static byte[] ladder(byte[] k, byte[] point) {
-        BigInteger scalar = number(k).clearBit(0).clearBit(1).clearBit(2).clearBit(255).setBit(254);
-        BigInteger u = number(point).clearBit(255).mod(P);
+        return keyOf(ladder(scalar(k), number(point).clearBit(255).mod(P)));
+    }
+
+    static BigInteger scalar(byte[] k) {
+        return number(k).clearBit(0).clearBit(1).clearBit(2).clearBit(255).setBit(254);
+    }
+
+    /** The loop of AGREE for a number of at most 255 bits, as it is. */
+    static BigInteger ladder(BigInteger scalar, BigInteger u) {
         BigInteger a = BigInteger.ONE, b = BigInteger.ZERO, c = u, d = BigInteger.ONE;
         for (int t = 254; t >= 0; t--) {
             boolean bit = scalar.testBit(t);
@@ -140,10 +148,13 @@ public final class Model {
                 x = b; b = d; d = x;
             }
         }
-        BigInteger result = a.multiply(b.modPow(P.subtract(BigInteger.TWO), P)).mod(P);
+        return a.multiply(b.modPow(P.subtract(BigInteger.TWO), P)).mod(P);
+    }
+
+    static byte[] keyOf(BigInteger number) {
         byte[] key = new byte[32];
         for (int i = 0; i < 32; i++) {
-            key[i] = result.shiftRight(8 * i).byteValue();
+            key[i] = number.shiftRight(8 * i).byteValue();
         }
         return key;
     }
@@ -346,7 +357,7 @@ public final class Model {
         } else {
             boolean goesOn = s.receiving != null && Arrays.equals(k, s.theirs);
             if (goesOn && n < s.come) {
-                return RatchetDesk.OLD;
+                return OLD;
             }
             if (!goesOn) {
                 if (s.receiving != null) {
@@ -364,15 +375,16 @@ public final class Model {
             s.receiving = hmac(s.receiving, row(2));
             s.come++;
             if (s.kept.size() > 6) {
-                return RatchetDesk.FAR;
+                return FAR;
             }
         }
-        if (!Arrays.equals(mark(letterKey, s.tie, header, sealed), Arrays.copyOfRange(letter, 42, 50))) {
-            return RatchetDesk.WRONG;
+        s.dueMark = mark(letterKey, s.tie, header, sealed);
+        if (!Arrays.equals(s.dueMark, Arrays.copyOfRange(letter, 42, 50))) {
+            return WRONG;
         }
         s.text = eight(xored(sealed, letterKey, header), 0);
         s.opened = true;
-        return RatchetDesk.OPENED;
+        return OPENED;
     }
 
     private static void skip(Side s, int upTo) {
@@ -383,35 +395,62 @@ public final class Model {
         }
     }
 
-    public int answer(int person, int letter) {
-        index(person, 4);
-        index(letter, letters.size());
-        room(sides.size(), 8);
-        byte[] bytes = letters.get(letter);
+    private boolean canAnswer(int person, byte[] bytes) {
         if (bytes.length != 84) {
-            return RatchetDesk.WRONG;
+            return false;
         }
         int who = bytes[50] & 255, told = bytes[51] & 255;
         List<OneTime> own = oneTimes.get(person);
-        if (who > 3 || who == person || told != 255 && (told >= own.size() || own.get(told).used)) {
-            return RatchetDesk.WRONG;
-        }
+        return who <= 3 && who != person && (told == 255 || told < own.size() && !own.get(told).used);
+    }
+
+    private Side newSide(int person, byte[] bytes) {
+        int who = bytes[50] & 255, told = bytes[51] & 255;
         byte[] e = Arrays.copyOfRange(bytes, 52, 84);
         byte[] agreements = row(x25519(prekey(person), shown(identity(who))), x25519(identity(person), e),
-            x25519(prekey(person), e), told == 255 ? new byte[0] : x25519(own.get(told).secret, e));
+            x25519(prekey(person), e),
+            told == 255 ? new byte[0] : x25519(oneTimes.get(person).get(told).secret, e));
         Side side = new Side();
         side.me = person;
         side.other = who;
         side.tie = row(shown(identity(who)), shown(identity(person)));
         side.root = spread(key(0), row(key(255), agreements), 'X')[0];
         side.secret = prekey(person);
+        return side;
+    }
+
+    /** The mark with which an end would open a letter, for letters that are made up by who knows the seed. */
+    byte[] markAt(int end, int letter) {
+        Side trial = sides.get(end).copy();
+        tryOn(trial, letters.get(letter));
+        return trial.dueMark;
+    }
+
+    /** The mark with which a person would answer it. */
+    byte[] markFor(int person, int letter) {
+        Side trial = newSide(person, letters.get(letter));
+        tryOn(trial, letters.get(letter));
+        return trial.dueMark;
+    }
+
+    public int answer(int person, int letter) {
+        index(person, 4);
+        index(letter, letters.size());
+        room(sides.size(), 8);
+        byte[] bytes = letters.get(letter);
+        if (!canAnswer(person, bytes)) {
+            return WRONG;
+        }
+        Side side = newSide(person, bytes);
         int outcome = tryOn(side, bytes);
-        if (outcome != RatchetDesk.OPENED) {
+        if (outcome != OPENED) {
             return outcome;
         }
+        int told = bytes[51] & 255;
         if (told != 255) {
-            own.get(told).used = true;
-            own.get(told).onOffer = false;
+            OneTime o = oneTimes.get(person).get(told);
+            o.used = true;
+            o.onOffer = false;
         }
         turn(side);
         sides.add(side);
@@ -423,7 +462,7 @@ public final class Model {
         index(letter, letters.size());
         Side trial = sides.get(end).copy();
         int outcome = tryOn(trial, letters.get(letter));
-        if (outcome == RatchetDesk.OPENED) {
+        if (outcome == OPENED) {
             if (trial.mustTurn) {
                 turn(trial);
             }
@@ -465,7 +504,7 @@ public final class Model {
         index(end, sides.size());
         Side s = sides.get(end);
         Map<Integer, Integer> counts = new TreeMap<>(Map.of(0, s.sent, 1, s.come, 2, s.before, 3, s.kept.size()));
-        return counts.getOrDefault(what, RatchetDesk.NONE);
+        return counts.getOrDefault(what, NONE);
     }
 
     public boolean keeps(int end, int letter) {
