@@ -747,7 +747,7 @@ public final class RatchetDesk {
     /** DIGEST, MAC and SPREAD; the row that they are of is gathered here piece by piece. */
     private static final class Hash {
         // The longest row of all, with its tail: a pad of 64, then a key and four agreements.
-        private static final int ROOM = 320;
+        private static final int ROOM = 256;
         private static final int BLOCK = 64;
         private static final int[] SQUARE_ROOTS = {
             0x6a09e667, 0xbb67ae85, 0x3c6ef372, 0xa54ff53a, 0x510e527f, 0x9b05688c, 0x1f83d9ab, 0x5be0cd19};

@@ -79,6 +79,9 @@ public final class EdgesOfAnsweringTest {
 
     private static void fiftyBytes() {
         Both both = Scenes.answered("WRONG also when it has 50 bytes", 304);
+        for (int person = 0; person < 4; person++) {
+            both.due(0, "stock", person);
+        }
         Scenes.send(both, 1, 1);
         both.due(50, "length", 1);
         int far = both.change(1, NUMBER, 255);

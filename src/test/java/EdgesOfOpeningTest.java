@@ -10,6 +10,7 @@ public final class EdgesOfOpeningTest {
         keptKeyIsTakenOut();
         keptKeyGoesBeforeOld();
         keptKeyOfAFormerChain();
+        keptKeysOfThreeChains();
         oldBelowCome();
         comeAndOneAbove();
         comeBecomesNAndOne();
@@ -117,6 +118,31 @@ public final class EdgesOfOpeningTest {
         both.due(true, "keeps", 1, 2);
         both.due(OPENED, "open", 1, 2);
         both.due(0, "count", 1, 3);
+    }
+
+    private static void keptKeysOfThreeChains() {
+        // Two keys of each of three chains are kept, and taken out in several orders.
+        int[][] orders = {{0, 1, 2, 3, 4, 5}, {5, 4, 3, 2, 1, 0}, {2, 5, 0, 3, 1, 4}, {3, 0, 4, 1, 5, 2}};
+        for (int[] order : orders) {
+            Both both = come("six kept, each with a ratchet key and a number", 1);
+            Scenes.send(both, 0, 2);
+            for (int turn = 0; turn < 2; turn++) {
+                Scenes.send(both, 1, 1);
+                both.due(OPENED, "open", 0, both.number("letters") - 1);
+                Scenes.send(both, 0, 3);
+                both.due(OPENED, "open", 1, both.number("letters") - 1);
+            }
+            both.due(6, "count", 1, 3);
+            int[] kept = {1, 2, 4, 5, 8, 9};
+            for (int i = 0; i < 6; i++) {
+                both.due(OPENED, "open", 1, kept[order[i]]);
+                both.due(1000L + kept[order[i]], "text", 1);
+                for (int j = 0; j < 6; j++) {
+                    both.due(j > i, "keeps", 1, kept[order[j]]);
+                }
+                both.due(5 - i, "count", 1, 3);
+            }
+        }
     }
 
     private static void oldBelowCome() {
@@ -642,6 +668,7 @@ public final class EdgesOfOpeningTest {
         both.due(true, "keeps", 1, both.change(0, NUMBER, 1));
         for (int at : new int[] {BEFORE, SEALED, MARK, 49, Scenes.BEGINNER, 83}) {
             both.due(true, "keeps", 1, Scenes.spoil(both, 1, at));
+            both.due(true, "keeps", 1, both.change(1, at, 255));
         }
         both.due(OPENED, "open", 1, 1);
         both.due(false, "keeps", 1, 1);

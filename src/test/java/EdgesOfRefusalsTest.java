@@ -305,9 +305,14 @@ public final class EdgesOfRefusalsTest {
     }
 
     private static void nineEndsByBeginning() {
-        Both both = new Both("begin: IllegalStateException when there are 8 ends", 75);
+        Both both = new Both("begin: IllegalStateException when there are 8 ends, not when there are 7", 75);
         both.due(0, "stock", 1);
-        for (int end = 0; end < 8; end++) {
+        // An end that is to turn yet: the next secret can be seen though no end can be made.
+        both.due(0, "begin", 2, 3);
+        Scenes.send(both, 0, 1);
+        both.due(1, "answer", 3, 0);
+        Scenes.send(both, 1, 1);
+        for (int end = 2; end < 8; end++) {
             both.due(end, "ends");
             both.due(end, "begin", 2, 3);
         }
@@ -317,6 +322,8 @@ public final class EdgesOfRefusalsTest {
         both.due(8, "ends");
         both.due(1, "offers", 1);
         both.due(1, "stock", 1);
+        both.due(Scenes.OPENED, "open", 0, 1);
+        both.look(0);
     }
 
     private static void nineEndsByAnswering() {
@@ -370,21 +377,27 @@ public final class EdgesOfRefusalsTest {
 
     private static void firstThatFitsOfStock() {
         Both both = Scenes.full("stock: the first exception in its throws clause that fits", 78);
-        both.refuseAlone(Both.INDEX, "stock", -1);
-        both.refuseAlone(Both.INDEX, "stock", 4);
+        both.refuse(Both.INDEX, "stock", -1);
+        both.refuse(Both.INDEX, "stock", 4);
+        both.unchanged();
         for (int person = 0; person < 4; person++) {
-            both.refuseAlone(Both.STATE, "stock", person);
+            both.refuse(Both.STATE, "stock", person);
         }
+        both.unchanged();
     }
 
     private static void firstThatFitsOfBegin() {
         Both both = Scenes.full("begin: the first exception in its throws clause that fits", 79);
-        both.refuseAlone(Both.INDEX, "begin", 4, 4);
-        both.refuseAlone(Both.INDEX, "begin", -1, -1);
-        both.refuseAlone(Both.INDEX, "begin", 0, 4);
-        both.refuseAlone(Both.INDEX, "begin", -1, 0);
+        both.refuse(Both.INDEX, "begin", 4, 4);
+        both.refuse(Both.INDEX, "begin", -1, -1);
+        both.refuse(Both.INDEX, "begin", 0, 4);
+        both.refuse(Both.INDEX, "begin", -1, 0);
+        both.unchanged();
         for (int person = 0; person < 4; person++) {
             both.refuse(Both.ARGUMENT, "begin", person, person);
+        }
+        both.unchanged();
+        for (int person = 0; person < 4; person++) {
             both.refuse(Both.STATE, "begin", person, (person + 3) % 4);
         }
         both.unchanged();
@@ -397,10 +410,12 @@ public final class EdgesOfRefusalsTest {
 
     private static void firstThatFitsOfSend() {
         Both both = Scenes.full("send: the first exception in its throws clause that fits", 80);
-        both.refuseAlone(Both.INDEX, "send", -1, 5L);
-        both.refuseAlone(Both.INDEX, "send", 8, 5L);
-        both.refuseAlone(Both.STATE, "send", 0, 5L);
-        both.refuseAlone(Both.STATE, "send", 7, 5L);
+        both.refuse(Both.INDEX, "send", -1, 5L);
+        both.refuse(Both.INDEX, "send", 8, 5L);
+        both.unchanged();
+        both.refuse(Both.STATE, "send", 0, 5L);
+        both.refuse(Both.STATE, "send", 7, 5L);
+        both.unchanged();
     }
 
     private static void firstThatFitsOfForge() {

@@ -27,14 +27,19 @@ public final class Both {
     private int calls;
 
     /** What is seen without the refused calls; kept, as many of these stand behind the same calls. */
-    private record Base(int calls, List<Replay.Call> questions, List<String> answers, List<Replay.Call> play,
-            List<String> played) {
+    private record Base(int calls, List<Replay.Call> questions, List<String> answers, List<List<Replay.Call>> plays,
+            List<List<String>> played) {
         static Base of(Replay replay, int calls) {
             List<Replay.Call> questions = replay.everyQuestion();
-            List<Replay.Call> play = replay.play();
-            List<Replay.Call> fitting = play.subList(0, Math.min(play.size(), Replay.MOST_CALLS - calls));
-            return new Base(calls, questions, replay.answers(questions), fitting, replay.answers(fitting));
+            List<List<Replay.Call>> plays = replay.plays();
+            List<List<String>> played = plays.stream().map(play -> replay.answers(fitting(play, calls))).toList();
+            return new Base(calls, questions, replay.answers(questions), plays, played);
         }
+    }
+
+    /** So much of a play as one object is good for behind some calls. */
+    private static List<Replay.Call> fitting(List<Replay.Call> play, int calls) {
+        return play.subList(0, Math.min(play.size(), Replay.MOST_CALLS - calls));
     }
 
     Both(String name, int seed) {
@@ -85,8 +90,9 @@ public final class Both {
         all.addAll(refused);
         Replay with = new Replay(seed, all);
         holdAll(with.answers(base.questions), base.answers);
-        int room = Math.min(base.play.size(), Replay.MOST_CALLS - all.size());
-        holdAll(with.answers(base.play.subList(0, room)), base.played);
+        for (int i = 0; i < base.plays.size(); i++) {
+            holdAll(with.answers(fitting(base.plays.get(i), all.size())), base.played.get(i));
+        }
         refused.clear();
     }
 

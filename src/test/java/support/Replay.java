@@ -113,30 +113,57 @@ final class Replay {
     }
 
     /**
-     * A play behind the calls that brings out what cannot be asked: which secret is the next, which
-     * one-time secrets are kept, what the chains and kept keys are good for.
+     * Plays behind the calls, each on an object of its own, that bring out what cannot be asked: which
+     * secret is the next, which one-time secrets are kept, what the chains and kept keys are good for.
      */
-    List<Call> play() {
+    List<List<Call>> plays() {
+        int letters = again().letters();
+        List<List<Call>> plays = new ArrayList<>(List.of(beginnings(letters), answers(letters)));
+        for (int end = 0; end < again().ends(); end++) {
+            plays.add(openings(end, letters));
+        }
+        return plays;
+    }
+
+    private static List<Call> beginnings(int letters) {
         List<Call> play = new ArrayList<>();
         for (int person = 0; person < PEOPLE; person++) {
             play.add(new Call("stock", person));
             play.add(new Call("begin", person, (person + 1) % PEOPLE));
         }
         for (int end = 0; end < ENDS; end++) {
-            play.add(new Call("word", end, 3, 0));
             play.add(new Call("send", end, 70L + end));
+            play.add(new Call("length", letters + end));
+            play.add(new Call("wire", letters + end, 0));
+            play.add(new Call("wire", letters + end, 42));
+            play.add(new Call("word", end, 3, 0));
         }
-        int letters = Math.min(again().letters() + ENDS, 48);
+        return play;
+    }
+
+    private static List<Call> answers(int letters) {
+        List<Call> play = new ArrayList<>();
         for (int letter = letters - 1; letter >= 0; letter--) {
-            play.add(new Call("length", letter));
-            for (int end = 0; end < ENDS; end++) {
-                play.add(new Call("open", end, letter));
-                play.add(new Call("text", end));
-            }
             for (int person = 0; person < PEOPLE; person++) {
                 play.add(new Call("answer", person, letter));
             }
         }
+        for (int end = 0; end < ENDS; end++) {
+            play.add(new Call("word", end, 3, 0));
+            play.add(new Call("text", end));
+        }
+        return play;
+    }
+
+    /** From the last letter to the first, and then what was too far. */
+    private static List<Call> openings(int end, int letters) {
+        List<Call> play = new ArrayList<>();
+        for (int i = 0; i < 2 * letters; i++) {
+            play.add(new Call("open", end, i < letters ? letters - 1 - i : i - letters));
+        }
+        askOfEnd(play, end, letters);
+        play.add(new Call("send", end, 70L));
+        play.add(new Call("length", letters));
         return play;
     }
 }
