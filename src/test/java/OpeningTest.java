@@ -23,31 +23,6 @@ public final class OpeningTest {
         Both.end();
     }
 
-    /** End 0 is of 0 who began with 1, letter 0 his first. */
-    private static Both begun(String name, int seed, int oneTimes) {
-        Both both = new Both(name, seed);
-        for (int i = 0; i < oneTimes; i++) {
-            both.due(i, "stock", 1);
-        }
-        both.due(0, "begin", 0, 1);
-        both.due(0, "send", 0, 1000L);
-        return both;
-    }
-
-    /** The same, and end 1 is of 1, who answered letter 0. */
-    private static Both answered(String name, int seed) {
-        Both both = begun(name, seed, 0);
-        both.due(1, "answer", 1, 0);
-        return both;
-    }
-
-    private static void send(Both both, int end, int n) {
-        for (int i = 0; i < n; i++) {
-            int letter = both.number("letters");
-            both.due(letter, "send", end, 1000L + letter);
-        }
-    }
-
     /** Each opens once; the second time it is OLD. */
     private static void openAll(Both both, int end, int... letters) {
         openOnce(both, end, -1, letters);
@@ -67,12 +42,8 @@ public final class OpeningTest {
         }
     }
 
-    private static int spoil(Both both, int letter, int at) {
-        return both.number("forge", letter, at, both.number("wire", letter, at) ^ 1);
-    }
-
     private static void answersByThreeAgreements() {
-        Both both = answered("three agreements", 21);
+        Both both = Scenes.answered("three agreements", 21);
         both.due(2, "ends");
         both.due(1, "person", 1, false);
         both.due(0, "person", 1, true);
@@ -83,14 +54,14 @@ public final class OpeningTest {
         both.due(0, "count", 1, 3);
         both.look(0);
         both.look(1);
-        send(both, 1, 1);
+        Scenes.send(both, 1, 1);
         both.due(50, "length", 1);
         openAll(both, 0, 1);
         both.look(0);
     }
 
     private static void answersByFourAgreements() {
-        Both both = begun("four agreements", 22, 2);
+        Both both = Scenes.begun("four agreements", 22, 2);
         both.due(0, "wire", 0, 51);
         both.due(1, "answer", 1, 0);
         both.due(1000, "text", 1);
@@ -99,21 +70,21 @@ public final class OpeningTest {
         // The one-time secret was used.
         both.due(-3, "answer", 1, 0);
         both.due(2, "ends");
-        send(both, 0, 1);
+        Scenes.send(both, 0, 1);
         both.due(-3, "answer", 1, 1);
         both.due(0, "open", 1, 1);
         // The other one was not.
         both.due(2, "begin", 3, 1);
         both.due(0, "offers", 1);
-        send(both, 2, 1);
+        Scenes.send(both, 2, 1);
         both.due(1, "wire", 2, 51);
         both.due(3, "answer", 1, 2);
         both.look(3);
     }
 
     private static void notToBeAnswered() {
-        Both both = answered("not to be answered", 23);
-        send(both, 1, 1);
+        Both both = Scenes.answered("not to be answered", 23);
+        Scenes.send(both, 1, 1);
         both.due(50, "length", 1);
         for (int person = 0; person < 4; person++) {
             both.due(-3, "answer", person, 1);
@@ -140,7 +111,7 @@ public final class OpeningTest {
     }
 
     private static void oneTimeTold() {
-        Both both = begun("one-time secret told", 24, 3);
+        Both both = Scenes.begun("one-time secret told", 24, 3);
         both.due(1, "begin", 2, 1);
         int letter = 1;
         for (int told : new int[] {1, 2, 3, 7, 8, 128, 254, 255}) {
@@ -162,7 +133,7 @@ public final class OpeningTest {
         both.due(-3, "answer", 1, far);
         both.due(1, "offers", 1);
         // Without one told, one is told: only of use to him who has it.
-        Both without = begun("no one-time secret told", 25, 0);
+        Both without = Scenes.begun("no one-time secret told", 25, 0);
         without.due(0, "stock", 1);
         without.due(255, "wire", 0, 51);
         without.due(1, "forge", 0, 51, 0);
@@ -174,18 +145,18 @@ public final class OpeningTest {
 
     private static void answersWithHighBitOfTheShownKey() {
         // Bit 255 of a key does not count in an agreement, and no mark covers what introduces.
-        Both both = begun("high bit", 26, 1);
+        Both both = Scenes.begun("high bit", 26, 1);
         int high = both.number("wire", 0, 83) ^ 128;
         both.due(1, "forge", 0, 83, high);
         both.due(1, "answer", 1, 1);
         both.due(1000, "text", 1);
         both.look(1);
-        send(both, 0, 1);
+        Scenes.send(both, 0, 1);
         both.due(3, "forge", 2, 60, 1);
         both.due(0, "open", 1, 3);
         both.due(1002, "text", 1);
         // In a header it counts.
-        send(both, 0, 1);
+        Scenes.send(both, 0, 1);
         both.due(5, "forge", 4, 31, both.number("wire", 4, 31) ^ 128);
         both.due(-3, "open", 1, 5);
         both.due(0, "open", 1, 4);
@@ -193,8 +164,8 @@ public final class OpeningTest {
 
     private static void farAtAnswering() {
         for (int n = 5; n <= 8; n++) {
-            Both both = begun("answers number " + n, 27, 1);
-            send(both, 0, n);
+            Both both = Scenes.begun("answers number " + n, 27, 1);
+            Scenes.send(both, 0, n);
             both.due(n, "wire", n, 33);
             if (n > 6) {
                 both.due(-2, "answer", 1, n);
@@ -217,8 +188,8 @@ public final class OpeningTest {
     }
 
     private static void anyOrder() {
-        Both both = answered("any order", 28);
-        send(both, 0, 6);
+        Both both = Scenes.answered("any order", 28);
+        Scenes.send(both, 0, 6);
         both.due(0, "open", 1, 4);
         both.due(5, "count", 1, 1);
         both.due(3, "count", 1, 3);
@@ -233,8 +204,8 @@ public final class OpeningTest {
     }
 
     private static void sixKept() {
-        Both both = answered("six kept", 29);
-        send(both, 0, 9);
+        Both both = Scenes.answered("six kept", 29);
+        Scenes.send(both, 0, 9);
         both.due(-2, "open", 1, 9);
         both.due(-2, "open", 1, 8);
         both.due(1, "count", 1, 1);
@@ -245,7 +216,7 @@ public final class OpeningTest {
         both.due(0, "open", 1, 8);
         openAll(both, 1, 3);
         both.due(5, "count", 1, 3);
-        send(both, 0, 2);
+        Scenes.send(both, 0, 2);
         both.due(0, "open", 1, 10);
         both.due(6, "count", 1, 3);
         both.due(true, "keeps", 1, 9);
@@ -255,16 +226,16 @@ public final class OpeningTest {
     }
 
     private static void keptOverATurn() {
-        Both both = answered("kept over a turn", 30);
-        send(both, 0, 3);
+        Both both = Scenes.answered("kept over a turn", 30);
+        Scenes.send(both, 0, 3);
         openAll(both, 1, 1);
-        send(both, 1, 2);
+        Scenes.send(both, 1, 2);
         openAll(both, 0, 5);
         both.due(1, "count", 0, 3);
         both.due(true, "keeps", 0, 4);
         both.due(4, "count", 0, 2);
         both.due(0, "count", 0, 0);
-        send(both, 0, 3);
+        Scenes.send(both, 0, 3);
         both.due(4, "wire", 6, 32);
         both.due(0, "wire", 6, 33);
         both.due(0, "open", 1, 7);
@@ -286,11 +257,11 @@ public final class OpeningTest {
 
     private static void farOverATurn() {
         for (int missed = 4; missed <= 6; missed++) {
-            Both both = answered("far over a turn " + missed, 31);
-            send(both, 0, missed);
-            send(both, 1, 1);
+            Both both = Scenes.answered("far over a turn " + missed, 31);
+            Scenes.send(both, 0, missed);
+            Scenes.send(both, 1, 1);
             both.due(0, "open", 0, missed + 1);
-            send(both, 0, 4);
+            Scenes.send(both, 0, 4);
             // missed letters of the former chain and those before this one are to be kept.
             for (int n = 3; n >= 0; n--) {
                 int letter = missed + 2 + n;
@@ -308,11 +279,11 @@ public final class OpeningTest {
     }
 
     private static void talkTurnsRound() {
-        Both both = answered("the talk turns round", 32);
+        Both both = Scenes.answered("the talk turns round", 32);
         for (int round = 0; round < 10; round++) {
             int end = 1 - (round & 1);
             int first = both.number("letters");
-            send(both, end, 1 + round % 3);
+            Scenes.send(both, end, 1 + round % 3);
             for (int i = 0; i < 1 + round % 3; i++) {
                 openAll(both, 1 - end, first + i);
             }
@@ -322,8 +293,8 @@ public final class OpeningTest {
         both.look(0);
         both.look(1);
         // Both write before they read: each opens by a chain that the other turned from.
-        send(both, 0, 1);
-        send(both, 1, 1);
+        Scenes.send(both, 0, 1);
+        Scenes.send(both, 1, 1);
         int last = both.number("letters") - 1;
         openAll(both, 0, last);
         openAll(both, 1, last - 1);
@@ -333,19 +304,19 @@ public final class OpeningTest {
 
     private static void everyByteSpoiled() {
         for (int from = 0; from < 84; from += 21) {
-            Both both = begun("spoiled from " + from, 33, 1);
+            Both both = Scenes.begun("spoiled from " + from, 33, 1);
             for (int at = from; at < from + 21; at++) {
-                int letter = spoil(both, 0, at);
+                int letter = Scenes.spoil(both, 0, at);
                 both.due(-3, "answer", 1, letter);
             }
             both.due(1, "ends");
             both.due(1, "answer", 1, 0);
         }
         for (int from = 0; from < 50; from += 25) {
-            Both both = answered("opened, spoiled from " + from, 34);
-            send(both, 0, 1);
+            Both both = Scenes.answered("opened, spoiled from " + from, 34);
+            Scenes.send(both, 0, 1);
             for (int at = from; at < from + 25; at++) {
-                both.due(at == 33 ? -1 : -3, "open", 1, spoil(both, 1, at));
+                both.due(at == 33 ? -1 : -3, "open", 1, Scenes.spoil(both, 1, at));
             }
             both.look(1);
             openAll(both, 1, 1);
@@ -353,11 +324,11 @@ public final class OpeningTest {
     }
 
     private static void spoiledLettersChangeNothing() {
-        Both both = answered("spoiled changes nothing", 35);
-        send(both, 1, 3);
+        Both both = Scenes.answered("spoiled changes nothing", 35);
+        Scenes.send(both, 1, 3);
         String before = both.look(0);
-        both.due(-3, "open", 0, spoil(both, 3, 44));
-        both.due(-3, "open", 0, spoil(both, 3, 5));
+        both.due(-3, "open", 0, Scenes.spoil(both, 3, 44));
+        both.due(-3, "open", 0, Scenes.spoil(both, 3, 5));
         both.due(-2, "open", 0, both.number("forge", 3, 33, 7));
         Both.hold("wrong and far change nothing", both.look(0), before);
         openAll(both, 0, 2);
@@ -368,7 +339,7 @@ public final class OpeningTest {
         Both.hold("old, wrong and far change nothing", both.look(0), before);
         openAll(both, 0, 3, 1);
         // No secret was made: the next turn's is the model's.
-        send(both, 0, 1);
+        Scenes.send(both, 0, 1);
         int last = both.number("letters") - 1;
         openAll(both, 1, last);
         both.look(0);
@@ -376,20 +347,20 @@ public final class OpeningTest {
     }
 
     private static void spoiledKeptLetter() {
-        Both both = answered("a kept one spoiled", 36);
-        send(both, 0, 3);
+        Both both = Scenes.answered("a kept one spoiled", 36);
+        Scenes.send(both, 0, 3);
         both.due(0, "open", 1, 3);
         both.due(2, "count", 1, 3);
-        int wrong = spoil(both, 1, 47);
+        int wrong = Scenes.spoil(both, 1, 47);
         both.due(true, "keeps", 1, wrong);
         both.due(-3, "open", 1, wrong);
         both.due(true, "keeps", 1, 1);
         both.due(1003, "text", 1);
         // BEFORE is not what a key is kept for, but the mark covers it.
-        int before = spoil(both, 1, 32);
+        int before = Scenes.spoil(both, 1, 32);
         both.due(true, "keeps", 1, before);
         both.due(-3, "open", 1, before);
-        int other = spoil(both, 1, 30);
+        int other = Scenes.spoil(both, 1, 30);
         both.due(false, "keeps", 1, other);
         both.due(false, "keeps", 1, both.number("forge", 1, 33, 9));
         both.due(true, "keeps", 1, both.number("forge", 1, 33, 2));
@@ -400,11 +371,11 @@ public final class OpeningTest {
     }
 
     private static void numbersSpoiled() {
-        Both both = answered("numbers spoiled", 37);
-        send(both, 0, 2);
-        send(both, 1, 1);
+        Both both = Scenes.answered("numbers spoiled", 37);
+        Scenes.send(both, 0, 2);
+        Scenes.send(both, 1, 1);
         openAll(both, 0, 3);
-        send(both, 0, 1);
+        Scenes.send(both, 0, 1);
         // A new chain: BEFORE tells how many keys of the former one are to be kept.
         for (int told : new int[] {0, 1, 2, 6, 7, 8, 128, 255}) {
             both.due(told > 7 ? -2 : -3, "open", 1, both.number("forge", 4, 32, told));
@@ -416,7 +387,7 @@ public final class OpeningTest {
         openAll(both, 1, 4);
         both.due(2, "count", 1, 3);
         // By the chain that stands BEFORE does not count but for the mark.
-        send(both, 0, 1);
+        Scenes.send(both, 0, 1);
         int last = both.number("letters") - 1;
         both.due(-3, "open", 1, both.number("forge", last, 32, 255));
         openAll(both, 1, last);
@@ -425,10 +396,10 @@ public final class OpeningTest {
     }
 
     private static void lettersOfOthers() {
-        Both both = answered("letters of others", 38);
+        Both both = Scenes.answered("letters of others", 38);
         both.due(2, "begin", 2, 1);
-        send(both, 2, 1);
-        send(both, 1, 1);
+        Scenes.send(both, 2, 1);
+        Scenes.send(both, 1, 1);
         both.due(-3, "open", 0, 0);
         both.due(-3, "open", 1, 1);
         both.due(-3, "open", 2, 2);
@@ -444,8 +415,8 @@ public final class OpeningTest {
 
     private static void keyOfZero() {
         // A point from which every agreement is 0: reckoned as any other one, and not the letter's key.
-        Both both = answered("a key of zero", 39);
-        send(both, 1, 1);
+        Both both = Scenes.answered("a key of zero", 39);
+        Scenes.send(both, 1, 1);
         int letter = 1;
         for (int at = 0; at < 32; at++) {
             letter = both.number("forge", letter, at, 0);
@@ -458,16 +429,16 @@ public final class OpeningTest {
     }
 
     private static void severalEndsForOneLetter() {
-        Both both = answered("several ends for one letter", 40);
+        Both both = Scenes.answered("several ends for one letter", 40);
         both.due(2, "answer", 1, 0);
         Both.hold("each end turns by a secret of its own",
             both.call("word", 1, 3, 0).equals(both.call("word", 2, 3, 0)) ? "same" : "other", "other");
-        send(both, 1, 1);
-        send(both, 2, 1);
+        Scenes.send(both, 1, 1);
+        Scenes.send(both, 2, 1);
         openAll(both, 0, 1);
         // The other end's letter came by a chain that went off before.
         both.due(-3, "open", 0, 2);
-        send(both, 0, 1);
+        Scenes.send(both, 0, 1);
         both.due(-3, "open", 2, 3);
         openAll(both, 1, 3);
         for (int end = 0; end < 3; end++) {
@@ -476,7 +447,7 @@ public final class OpeningTest {
     }
 
     private static void otherNumbersOfCountAndWord() {
-        Both both = answered("other numbers", 41);
+        Both both = Scenes.answered("other numbers", 41);
         for (int what : new int[] {-1, 4, 5, 100, Integer.MIN_VALUE, Integer.MAX_VALUE}) {
             both.due(-1, "count", 0, what);
             both.due(what == 4 ? both.call("word", 0, 4, 1) : "0", "word", 0, what, 1);
