@@ -111,9 +111,10 @@ public final class EdgesOfAnsweringTest {
         both.due(1, "begin", 0, 3);
         Scenes.send(both, 0, 1);
         Scenes.send(both, 1, 1);
-        both.due(FAR, "answer", 0, both.change(0, NUMBER, 255));
-        both.due(FAR, "answer", 3, both.change(1, NUMBER, 255));
-        both.due(WRONG, "answer", 0, both.change(0, NUMBER, 255, BEGINNER, 4));
+        both.refuse(FAR, "answer", 0, both.change(0, NUMBER, 255));
+        both.refuse(FAR, "answer", 3, both.change(1, NUMBER, 255));
+        both.refuse(WRONG, "answer", 0, both.change(0, NUMBER, 255, BEGINNER, 4));
+        both.unchanged();
         both.due(2, "answer", 0, 0);
         both.due(3, "person", 2, true);
         both.due(3, "answer", 3, 1);

@@ -696,7 +696,7 @@ public final class EdgesOfOpeningTest {
             both.due(0, "word", 0, 2, part);
         }
         Scenes.send(both, 1, 1);
-        both.refuse(WRONG, "open", 0, Scenes.spoil(both, 1, MARK));
+        both.refuseAlone(WRONG, "open", 0, Scenes.spoil(both, 1, MARK));
         for (int part = 0; part < 4; part++) {
             both.due(0, "word", 0, 2, part);
         }
