@@ -21,7 +21,7 @@ public final class EdgesOfAnsweringTest {
         oneTimeNotMadeYet();
         oneTimeOfNumbersBeyond();
         oneTimeUsed();
-        oneTimeUsedByAnOffer();
+        oneTimeUpToTheLast();
         oneTimeNotTold();
         oneTimeToldWithoutOne();
         oneTimeNotUsedByAFailure();
@@ -226,17 +226,31 @@ public final class EdgesOfAnsweringTest {
         both.due(OPENED, "open", 1, 2);
     }
 
-    private static void oneTimeUsedByAnOffer() {
-        // The document does not say whether a used one can be on offer still: used is not kept, and an offer is.
-        Both both = Scenes.begun("o is used, which was on offer", 314, 3);
-        both.due(2, "offers", 1);
-        both.due(1, "answer", 1, both.craftFirst(1, 0, ONE_TIME, 1));
-        both.due(1, "offers", 1);
-        both.due(2, "begin", 2, 1);
-        Scenes.send(both, 2, 1);
-        int letter = both.number("letters") - 1;
-        both.due(2, "wire", letter, ONE_TIME);
-        both.due(3, "answer", 1, letter);
+    private static void oneTimeUpToTheLast() {
+        // To begin with the numbers 0 .. o takes o + 1 ends, and the answer one more.
+        for (int o = 0; o < 7; o++) {
+            Both both = new Both("AGREE(o, PUBLIC(e)), o of the number " + o, 325);
+            for (int i = 0; i < 8; i++) {
+                both.due(i, "stock", 2);
+            }
+            for (int end = 0; end <= o; end++) {
+                both.due(end, "begin", 3, 2);
+            }
+            Scenes.send(both, o, 1);
+            Scenes.send(both, 0, 1);
+            both.due(o, "wire", 0, ONE_TIME);
+            both.due(o + 1, "answer", 2, 0);
+            both.due(1000, "text", o + 1);
+            both.look(o + 1);
+            if (o < 6) {
+                // It is used, it alone.
+                both.refuseAlone(WRONG, "answer", 2, 0);
+                both.due(o == 0 ? WRONG : o + 2, "answer", 2, 1);
+            }
+        }
+        Both last = Scenes.begun("AGREE(o, PUBLIC(e)), o of the number 7", 325, 8);
+        last.due(1, "answer", 1, last.craftFirst(1, 0, ONE_TIME, 7));
+        last.look(1);
     }
 
     private static void oneTimeNotTold() {

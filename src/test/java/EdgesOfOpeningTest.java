@@ -11,6 +11,7 @@ public final class EdgesOfOpeningTest {
         keptKeyGoesBeforeOld();
         keptKeyOfAFormerChain();
         keptKeysOfThreeChains();
+        keptKeysOfHighNumbers();
         oldBelowCome();
         comeAndOneAbove();
         comeBecomesNAndOne();
@@ -143,6 +144,27 @@ public final class EdgesOfOpeningTest {
                 both.due(5 - i, "count", 1, 3);
             }
         }
+    }
+
+    private static void keptKeysOfHighNumbers() {
+        // The whole of the longest chain but for its last letter, in sevens from behind.
+        Both both = come("six kept, with numbers up to 45", 1);
+        Scenes.send(both, 0, 46);
+        for (int from = 1; from + 6 < 47; from += 7) {
+            for (int letter = from + 6; letter >= from; letter--) {
+                both.due(letter < from + 6, "keeps", 1, letter);
+                both.due(OPENED, "open", 1, letter);
+                both.due(1000L + letter, "text", 1);
+            }
+            both.due(from + 7, "count", 1, 1);
+            both.due(0, "count", 1, 3);
+        }
+        both.due(43, "count", 1, 1);
+        both.due(OPENED, "open", 1, 46);
+        both.due(true, "keeps", 1, 45);
+        both.due(false, "keeps", 1, 13);
+        both.due(OPENED, "open", 1, 45);
+        both.due(1045, "text", 1);
     }
 
     private static void oldBelowCome() {
@@ -688,6 +710,16 @@ public final class EdgesOfOpeningTest {
         both.due(OPENED, "open", 1, 1);
         both.due(false, "keeps", 1, 1);
         both.due(true, "keeps", 2, 1);
+        // Each of eight ends that could keep it, one after the other.
+        for (int end = 3; end < 8; end++) {
+            both.due(end, "answer", 1, 0);
+        }
+        for (int opens = 3; opens < 8; opens++) {
+            both.due(OPENED, "open", opens, 2);
+            for (int end = 0; end < 8; end++) {
+                both.due(end >= 2 && end <= opens, "keeps", end, 1);
+            }
+        }
     }
 
     private static void wordsThatAreNone() {

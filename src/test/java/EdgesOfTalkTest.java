@@ -10,6 +10,7 @@ public final class EdgesOfTalkTest {
     public static void main(String[] args) {
         secretsOneAfterTheOther();
         secretsOfRefusedCalls();
+        secretsUpToTheMost();
         oneTimeNumbersOfEachPerson();
         offersWhenNoneWasMade();
         offerWithTheLeastNumber();
@@ -94,6 +95,35 @@ public final class EdgesOfTalkTest {
         Scenes.send(both, 0, 1);
         // 8 and 9 to begin, 10 to answer.
         Both.hold("the next is 11", bytesOf(both, 4, 0, 32), shownSecret(seed, 11));
+    }
+
+    private static void secretsUpToTheMost() {
+        int seed = 101;
+        Both both = new Both("secrets are made one after the other, a hundred and more of them", seed);
+        for (int i = 0; i < 32; i++) {
+            both.due(i / 4, "stock", i % 4);
+        }
+        both.due(0, "begin", 0, 1);
+        both.due(0, "send", 0, 0L);
+        both.due(1, "answer", 1, 0);
+        // 40 and 41 to begin, 42 to answer; then each letter turns the one who opens it.
+        for (int letter = 1; letter < 48; letter++) {
+            both.due(letter, "send", letter % 2, (long) letter);
+            both.due(Scenes.OPENED, "open", 1 - letter % 2, letter);
+        }
+        Both.hold("the last turn's is 89", shownOf(both, 0), shownSecret(seed, 89));
+        for (int end = 2; end < 8; end++) {
+            both.due(end, "begin", 2, 3);
+            Both.hold("the ratchet secret of end " + end, shownOf(both, end), shownSecret(seed, 87 + 2 * end));
+        }
+    }
+
+    private static String shownOf(Both both, int end) {
+        StringBuilder hex = new StringBuilder();
+        for (int part = 0; part < 4; part++) {
+            hex.append(String.format("%016x", Long.reverseBytes(Long.parseLong(both.call("word", end, 3, part)))));
+        }
+        return hex.toString();
     }
 
     private static void oneTimeNumbersOfEachPerson() {
@@ -352,6 +382,14 @@ public final class EdgesOfTalkTest {
         both.due(Scenes.OPENED, "open", 1, 6);
         both.due(1, "count", 1, 2);
         both.due(0, "count", 1, 0);
+        // The greatest BEFORE that a letter can have: one is the reply, and one has it.
+        Both most = Scenes.answered("BEFORE, in a letter: 46", 91);
+        Scenes.send(most, 0, 45);
+        Scenes.send(most, 1, 1);
+        most.due(Scenes.OPENED, "open", 0, 46);
+        most.due(46, "count", 0, 2);
+        Scenes.send(most, 0, 1);
+        most.due(46, "wire", 47, Scenes.BEFORE);
         // Turned twice, by letters that are made up: by the second time nothing was sent since.
         int turn = both.craft(0, 5, 0, both.number("wire", 5, 0) ^ 1, Scenes.BEFORE, 1);
         both.due(2, "count", 0, 0);

@@ -13,7 +13,7 @@ public final class FaceTest {
     private static final String INDEX = " throws IndexOutOfBoundsException";
     private static final String ARGUMENT = ", IllegalArgumentException";
     private static final String STATE = ", IllegalStateException";
-    private static final List<String> FACE = List.of(
+    static final List<String> FACE = List.of(
         "RatchetDesk(int)",
         "int OPENED = 0", "int OLD = -1", "int FAR = -2", "int WRONG = -3", "int NONE = -1",
         "void put(int, int, long)" + INDEX,
@@ -46,13 +46,13 @@ public final class FaceTest {
                 + types(c.getExceptionTypes(), " throws ", ""));
         }
         for (Field f : type.getDeclaredFields()) {
-            if (!Modifier.isPrivate(f.getModifiers())) {
+            if (!Modifier.isPrivate(f.getModifiers()) && !f.isSynthetic()) {
                 seen.add(unlessPublic(f.getModifiers()) + f.getType().getSimpleName() + " " + f.getName() + " = "
                     + f.get(null));
             }
         }
         for (Method m : type.getDeclaredMethods()) {
-            if (!Modifier.isPrivate(m.getModifiers())) {
+            if (!Modifier.isPrivate(m.getModifiers()) && !m.isSynthetic()) {
                 seen.add(unlessPublic(m.getModifiers()) + m.getReturnType().getSimpleName() + " " + m.getName()
                     + types(m.getParameterTypes(), "(", ")") + types(m.getExceptionTypes(), " throws ", ""));
             }
@@ -68,16 +68,14 @@ public final class FaceTest {
         Both.end();
     }
 
+    /** Rule 1: no private method bears the name of a public one; classes inside are static and not to be seen. */
     private static void namesInside(Class<?> type) {
         TreeSet<String> faceNames = Arrays.stream(type.getDeclaredMethods())
             .filter(m -> Modifier.isPublic(m.getModifiers())).map(Method::getName)
             .collect(Collectors.toCollection(TreeSet::new));
-        Stream<Method> outer = Arrays.stream(type.getDeclaredMethods())
-            .filter(m -> !Modifier.isPublic(m.getModifiers()));
-        Stream<Method> inner = Arrays.stream(type.getDeclaredClasses())
-            .flatMap(c -> Arrays.stream(c.getDeclaredMethods()));
-        Stream.concat(outer, inner).forEach(m ->
-            Both.hold(m + " bears a name of the face", "" + faceNames.contains(m.getName()), "false"));
+        Stream.concat(Stream.of(type), Arrays.stream(type.getDeclaredClasses()))
+            .flatMap(c -> Arrays.stream(c.getDeclaredMethods())).filter(m -> Modifier.isPrivate(m.getModifiers()))
+            .forEach(m -> Both.hold(m + " bears a name of the face", "" + faceNames.contains(m.getName()), "false"));
         for (Class<?> c : type.getDeclaredClasses()) {
             boolean plain = Modifier.isStatic(c.getModifiers()) && !Modifier.isPublic(c.getModifiers())
                 && !Modifier.isProtected(c.getModifiers());

@@ -1,21 +1,19 @@
 import java.lang.management.ManagementFactory;
 
-/** The room: what an object and its 512 calls make, by the bytes that the Java machine gives out. */
+/**
+ * The room in which all calls of a run live: some 7.3 million elements. It is held by the bytes that
+ * the Java machine gives out to a new object and 512 calls of it, four of them for an element.
+ */
 public final class RoomTest {
-    // Of 7.3 million elements an int has four bytes: this is far below.
-    private static final long MOST_FOR_AN_OBJECT = 200_000;
-    private static final long MOST_FOR_ITS_CALLS = 20_000;
+    private static final long MOST = 4 * 7_300_000L;
+    private static final int CALLS = 512;
 
     public static void main(String[] args) {
+        // Once before, as the first time the machine makes things of its own.
         run();
-        long start = given();
-        RatchetDesk desk = new RatchetDesk(3);
-        long made = given() - start;
-        long called = run();
-        System.out.println("an object: " + made + " bytes, its calls: " + called + " bytes");
-        Both.hold("an object is small", made < MOST_FOR_AN_OBJECT ? "yes" : "no: " + made, "yes");
-        Both.hold("calls make next to nothing", called < MOST_FOR_ITS_CALLS ? "yes" : "no: " + called, "yes");
-        Both.hold("a new object", "" + desk.ends(), "0");
+        long used = run();
+        System.out.println("an object and its calls: " + used + " bytes");
+        Both.hold("a run has room", used < MOST ? "yes" : "no: " + used, "yes");
         Both.end();
     }
 
@@ -24,28 +22,29 @@ public final class RoomTest {
             .getThreadAllocatedBytes(Thread.currentThread().getId());
     }
 
-    /** 500 calls, the dear ones most of all: what they took. */
+    /** As many dear calls as an object is good for: what it and they took. */
     private static long run() {
-        RatchetDesk desk = new RatchetDesk(4);
         long start = given();
+        RatchetDesk desk = new RatchetDesk(4);
         for (int i = 0; i < 8; i++) {
             desk.stock(i & 1);
         }
         desk.begin(0, 1);
-        int letter = desk.send(0, 1);
-        int end = desk.answer(1, letter);
-        for (int i = 0; i < 46; i++) {
-            letter = desk.send(i & 1, i);
-            desk.open(1 - (i & 1), letter);
-            desk.open(end, 0);
+        desk.send(0, 1);
+        desk.answer(1, 0);
+        int calls = 11;
+        for (int i = 1; i < 47; i++) {
+            desk.send(i & 1, i);
+            desk.open(1 - (i & 1), i);
             desk.answer(1, 0);
             desk.agree(0, 1, 2);
-        }
-        for (int i = 0; i < 250; i++) {
-            desk.open(0, i % desk.letters());
+            calls += 4;
         }
         desk.digest(128, 1);
         desk.mac(1, 2, 3);
+        for (calls += 2; calls < CALLS; calls++) {
+            desk.open(0, calls % 47);
+        }
         return given() - start;
     }
 }
