@@ -397,6 +397,7 @@ public final class EdgesOfOpeningTest {
     private static void oldBeforeWrong() {
         Both both = come("OLD comes before WRONG", 2);
         both.refuse(OLD, "open", 1, Scenes.spoil(both, 1, MARK));
+        both.refuse(OLD, "open", 1, both.change(1, MARK, 0, MARK + 1, 0, MARK + 7, 0));
         both.refuse(OLD, "open", 1, Scenes.spoil(both, 1, SEALED));
         both.refuse(OLD, "open", 1, both.change(1, BEFORE, 255));
         both.unchanged();
